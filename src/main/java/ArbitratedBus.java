@@ -533,7 +533,12 @@ public final class ArbitratedBus {
         walker.begin();
         int walked = 1;
         while (walked < most && walker.isInStuffedPart()) {
-            walker.take(walker.nextOf(outgoing));
+            int bit = walker.nextOf(outgoing);
+            if (walker.isStuffBitDue()) {
+                walker.takeStuffBit(bit);
+            } else {
+                walker.takeBasicBit(bit);
+            }
             walked++;
         }
         return walked;
@@ -964,7 +969,7 @@ public final class ArbitratedBus {
             } else if (sample == bits.latest) {
                 fail(transmitter ? BIT : STUFF);
             } else {
-                bits.take(sample);
+                bits.takeStuffBit(sample);
             }
         }
 
@@ -978,7 +983,7 @@ public final class ArbitratedBus {
                 sending = NOT_SENDING;
                 tally.lost++;
             }
-            bits.take(sample);
+            bits.takeBasicBit(sample);
             if (!transmitter && bits.hasWrongHeader()) {
                 fail(FORM);
             }
@@ -1153,7 +1158,7 @@ public final class ArbitratedBus {
         }
 
         void insertAt(int place, int key, int length, int data) {
-            if (isFull() || place < 0 || place > size) {
+            if (size >= keys.length || place < 0 || place > size) {
                 return;
             }
             for (int index = size; index > place; index--) {
@@ -1279,17 +1284,15 @@ public final class ArbitratedBus {
             return tail == ACK_SLOT && isCrcRight() ? 0 : 1;
         }
 
-        /** Takes the next bit of the stuffed part. */
-        void take(int bit) {
-            boolean isStuffBit = isStuffBitDue();
-            equalBits = bit == latest ? equalBits + 1 : 1;
+        /** Takes a stuff bit that is right, and so not equal to the bit before. */
+        void takeStuffBit(int bit) {
+            equalBits = 1;
             latest = bit;
-            if (!isStuffBit) {
-                takeBasic(bit);
-            }
         }
 
-        private void takeBasic(int bit) {
+        void takeBasicBit(int bit) {
+            equalBits = bit == latest ? equalBits + 1 : 1;
+            latest = bit;
             if (basicBits >= bodyBits) {
                 sampledCrc = sampledCrc << 1 | bit;
                 basicBits++;

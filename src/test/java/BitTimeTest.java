@@ -29,6 +29,8 @@ final class BitTimeTest {
         suspend();
         activeAndPassiveFlag();
         busOff();
+        busOffTwice();
+        limitsOfNewObject();
         busOffOfReceiver();
         ackErrorOfPassiveNode();
         receiveCounterIsLimited();
@@ -478,6 +480,55 @@ final class BitTimeTest {
         x.run(11);
         due("bus off: a way out by joining", x.phase(0), ArbitratedBus.IDLE);
         due("bus off: counters stay then", x.transmitErrors(0), 16);
+    }
+
+    private static void failAtStart(ArbitratedBus x) {
+        runUntilIdle(x, 0);
+        x.disturb(1, 0);
+        x.run(1);
+    }
+
+    private static void busOffTwice() {
+        ArbitratedBus x = zeros();
+        x.setLimits(8, 16, 3);
+        x.cancel(0, 0);
+        x.disturb(1, 0);
+        x.run(60);
+        due("bus off twice: receive errors before", x.receiveErrors(0), 9);
+        x.detach(1);
+        x.detach(2);
+        x.detach(3);
+        x.request(0, 0, false, 0, 0);
+        failAtStart(x);
+        failAtStart(x);
+        due("bus off twice: first", x.phase(0), ArbitratedBus.BUS_OFF);
+        due("bus off twice: receive errors stay", x.receiveErrors(0), 9);
+        x.run(33);
+        due("bus off twice: recovered", x.phase(0), ArbitratedBus.IDLE);
+        due("bus off twice: no receive errors", x.receiveErrors(0), 0);
+        failAtStart(x);
+        failAtStart(x);
+        due("bus off twice: second", x.phase(0), ArbitratedBus.BUS_OFF);
+        x.run(32);
+        due("bus off twice: as many sequences again", x.phase(0), ArbitratedBus.BUS_OFF);
+        x.run(1);
+        due("bus off twice: recovered", x.phase(0), ArbitratedBus.IDLE);
+    }
+
+    private static void limitsOfNewObject() {
+        ArbitratedBus x = alone();
+        for (int k = 1; k <= 31; k++) {
+            failAtStart(x);
+            due("limits: passive from 128 on", x.isPassive(0), k >= 16 ? 1 : 0);
+            due("limits: counter", x.transmitErrors(0), 8 * k);
+            due("limits: below 256", x.phase(0), ArbitratedBus.FLAG);
+        }
+        failAtStart(x);
+        due("limits: off at 256", x.phase(0), ArbitratedBus.BUS_OFF);
+        x.run(43);
+        due("limits: not yet recovered", x.phase(0), ArbitratedBus.BUS_OFF);
+        x.run(1);
+        due("limits: recovered after four sequences", x.phase(0), ArbitratedBus.IDLE);
     }
 
     private static void busOffOfReceiver() {

@@ -6,6 +6,7 @@ final class ComputationTest {
         winner();
         winnerOfThoseThatTakePart();
         bitsUntilSent();
+        atMostThousandBits();
         predictionsChangeNothing();
         badFrames();
         crc();
@@ -73,6 +74,35 @@ final class ComputationTest {
         due("34 with the disturbances", late, lateness(x) + remote);
         due("34 a detached node", x.detach(2) + x.request(2, 1, false, 0, 0), 4);
         due("34 never", x.bitsUntilSent(2), ArbitratedBus.NONE);
+    }
+
+    /** Sixteen frames last longer than 1000 bit times; the last of them is that of node 3. */
+    private static void atMostThousandBits() {
+        ArbitratedBus x = new ArbitratedBus();
+        int all = 0;
+        for (int k = 0; k < 16; k++) {
+            x.request(k / 4, k < 15 ? k : 2047, false, 4, -1);
+            all += x.frameBits(k < 15 ? k : 2047, false, 4, -1) + 3;
+        }
+        x.request(3, 2047, false, 4, -1);
+        x.cancel(3, 12);
+        x.cancel(3, 13);
+        x.cancel(3, 14);
+        for (int k = 12; k < 15; k++) {
+            all -= x.frameBits(k, false, 4, -1) + 3;
+        }
+        CHECK.holds("34 long enough", all > 1004 && all < 1200);
+        x.run(all - 1004);
+        due("34 after 1001", x.bitsUntilSent(3), ArbitratedBus.NONE);
+        x.run(1);
+        due("34 after 1000", x.bitsUntilSent(3), 1000);
+        x.run(2);
+        x.save(0);
+        due("12 not after 1000", x.settle(), ArbitratedBus.NONE);
+        due("12 but after one more", x.settle(), 1);
+        x.restore(0);
+        x.run(1);
+        due("12 after 1000", x.settle(), 1000);
     }
 
     /** How many bit times pass until node 0 is idle again, found on a copy in a slot. */

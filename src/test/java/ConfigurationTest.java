@@ -119,6 +119,9 @@ final class ConfigurationTest {
         due("4 fourth", x.setAnswer(1, 8, 2, 0xffff), 4);
         due("4 full", x.setAnswer(1, 9, 0, 0), ArbitratedBus.FULL);
         due("4 in place although full", x.setAnswer(1, 7, 2, 513), 4);
+        due("4 the oldest in place although full", x.setAnswer(1, 0, 1, 1), 4);
+        due("4 each of them in place", x.setAnswer(1, 2047, 4, -2), 4);
+        due("4 each of them in place", x.setAnswer(1, 8, 2, 1), 4);
         due("4 no node before bad value", x.setAnswer(4, -1, 0, 0), ArbitratedBus.NO_SUCH_NODE);
         due("4 node -1", x.setAnswer(-1, 1, 0, 0), ArbitratedBus.NO_SUCH_NODE);
         due("4 bad value before full", x.setAnswer(1, 2048, 0, 0), ArbitratedBus.BAD_VALUE);

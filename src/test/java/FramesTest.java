@@ -11,6 +11,7 @@ final class FramesTest {
         disturb();
         disturbTwice();
         disturbancesPass();
+        disturbancesKeepTheirNodes();
         run();
         runCountsSent();
         settle();
@@ -186,6 +187,18 @@ final class FramesTest {
         due("10 the last of the early ones is next", x.disturb(1, 0), 2);
         x.run(1);
         due("10 all have passed", x.disturb(1, 0), 1);
+    }
+
+    private static void disturbancesKeepTheirNodes() {
+        ArbitratedBus x = new ArbitratedBus();
+        x.detach(3);
+        x.disturb(8, 0);
+        x.disturb(2, 1);
+        x.disturb(4, 1);
+        x.run(2);
+        due("10 node 0", x.phase(0), ArbitratedBus.IDLE);
+        due("10 node 1", x.phase(1), ArbitratedBus.FRAME);
+        due("10 node 2", x.phase(2), ArbitratedBus.FRAME);
     }
 
     private static void run() {

@@ -53,6 +53,16 @@ final class MessagesTest {
         due("40 the others stay", x.responseTime(7), 110);
         due("40 left", x.removeMessage(5), 1);
         due("40 left", x.removeMessage(7), 0);
+        x.addMessage(1, 0, 2000, 0);
+        x.addMessage(4, 1, 110, 3);
+        x.addMessage(9, 2, 3000, 200);
+        x.addMessage(2, 3, 4000, 400);
+        due("40 the first", x.removeMessage(1), 3);
+        due("40 the others keep length and jitter", x.responseTime(2), 400 + 75 + 85);
+        due("40 and their periods", x.responseTime(4), ArbitratedBus.NONE);
+        due("40 the first again", x.removeMessage(4), 2);
+        due("40 length and jitter", x.responseTime(9), 200 + 85 + 75);
+        due("40 the last is moved too", x.responseTime(2), 400 + 75 + 85);
     }
 
     private static void responseTimes() {
@@ -74,6 +84,9 @@ final class MessagesTest {
         x.addMessage(2, 1, 400, 0);
         // w: 0, 120, 55 * 2 + 65 = 175, 175
         due("41 two before it", x.responseTime(7), 230);
+        x.addMessage(1, 0, 1, 0);
+        due("41 the shortest period", x.responseTime(7), ArbitratedBus.NONE);
+        x.removeMessage(1);
         // the higher one blocks with 55: w: 55, 55 + 65 = 120, 120
         due("41 between two", x.responseTime(3) == ArbitratedBus.NONE ? 1 : 0, 1);
         x.addMessage(3, 0, 175, 0);

@@ -5,7 +5,9 @@ final class SlotsTest {
     public static void main(String[] args) {
         slotNumbers();
         everythingIsSaved();
+        everyPhaseIsSaved();
         settingsAreSaved();
+        codeIsSaved();
         textAndMessagesStay();
         slotsAreKept();
         checksum();
@@ -59,6 +61,44 @@ final class SlotsTest {
         }
     }
 
+    /**
+     * At every bit time of an eventful run the state is saved; then another state, from the other slot,
+     * is put in its place, and after restoring, the run must go on as it did.
+     */
+    private static void everyPhaseIsSaved() {
+        ArbitratedBus x = new ArbitratedBus();
+        x.setLimits(100, 101, 7);
+        x.setFilter(1, 2047, 1);
+        x.request(1, 0x2aa, false, 4, 0x12345678);
+        x.run(20);
+        x.save(1);
+        x.restore(1);
+        x.detach(0);
+        x.setLimits(8, 16, 2);
+        x.setFilter(1, 2047, 0x2aa);
+        for (int k = 0; k < 6; k++) {
+            x.request(2, 5 + k, false, 1, k);
+        }
+        x.attach(0);
+        x.disturb(2, 10);
+        x.disturb(8, 60);
+        x.disturb(2, 66);
+        for (int bit = 0; bit < 120; bit++) {
+            x.save(0);
+            long start = x.checksum();
+            x.run(100);
+            long end = x.checksum();
+            x.restore(1);
+            x.run(3);
+            x.restore(0);
+            due("48 same state at " + bit, x.checksum(), start);
+            x.run(100);
+            due("48 same end from " + bit, x.checksum(), end);
+            x.restore(0);
+            x.run(1);
+        }
+    }
+
     private static void settingsAreSaved() {
         ArbitratedBus x = new ArbitratedBus();
         x.setLimits(20, 30, 2);
@@ -78,6 +118,13 @@ final class SlotsTest {
         due("48 restore", x.restore(0), 3);
         due("48 limits", x.setLimits(20, 30, 2), 20);
         due("48 filter", x.setFilter(1, 5, 5), 5);
+        for (int k = 0; k < 7; k++) {
+            x.request(0, 2, false, 0, 0);
+            x.settle();
+        }
+        due("48 an overrun later", x.overruns(2), 1);
+        x.restore(0);
+        due("48 no overrun then", x.overruns(2), 0);
         due("48 no answer", x.removeAnswer(3, 9), ArbitratedBus.NONE);
         due("48 answer", x.removeAnswer(2, 9), 0);
         due("48 phase", x.phase(0), ArbitratedBus.IDLE);
@@ -85,6 +132,19 @@ final class SlotsTest {
         due("48 levels", x.level(4), ArbitratedBus.NONE);
         x.run(1);
         due("48 the disturbance of this time", x.phase(0), ArbitratedBus.FRAME);
+    }
+
+    private static void codeIsSaved() {
+        ArbitratedBus x = new ArbitratedBus();
+        x.setFilter(1, 2047, 5);
+        x.save(0);
+        x.setFilter(1, 2047, 6);
+        x.restore(0);
+        x.request(0, 5, false, 0, 0);
+        x.request(0, 6, false, 0, 0);
+        x.settle();
+        due("48 one passes", x.received(1), 1);
+        due("48 by the code as it was", x.receivedFrame(1, 0), 10);
     }
 
     private static void textAndMessagesStay() {
