@@ -2,17 +2,27 @@
 final class Check {
     private int wrong;
     private int asked;
+    private String context = "";
+
+    /** Names what the next answers belong to. */
+    void enter(String newContext) {
+        context = newContext;
+    }
 
     void due(String what, long got, long want) {
         asked++;
         if (got != want) {
             wrong++;
-            System.out.println(what + " answered " + got + ", due is " + want);
+            System.out.println(context + what + " answered " + got + ", due is " + want);
         }
     }
 
     void holds(String what, boolean condition) {
         due(what, condition ? 1 : 0, 1);
+    }
+
+    int answers() {
+        return asked;
     }
 
     boolean isClean() {

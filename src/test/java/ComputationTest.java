@@ -177,6 +177,7 @@ final class ComputationTest {
         due("36 remote frames have no data", x.frameBits(0x555, true, 4, 0) < 60 ? 1 : 0, 1);
         for (int length = 0; length <= 4; length++) {
             int ones = length == 4 ? -1 : (1 << (8 * length)) - 1;
+            x = new ArbitratedBus();
             for (int identifier = 0; identifier < 2048; identifier += 31) {
                 int bits = x.frameBits(identifier, false, length, ones);
                 CHECK.holds("36 within its bounds", bits >= 44 + 8 * length && bits + 3 <= x.worstBits(length));

@@ -6,6 +6,8 @@ import java.util.Random;
 final class ModelTest {
     private static final Check CHECK = new Check();
     private static final String LETTERS = "0123:#;Rabcdef45678g9 A";
+    /** The document leaves free what calls after the 512th answer; a step has fewer than 60. */
+    private static final int MOST_CALLS = 512 - 60;
 
     private final Random random;
     private final int few;
@@ -19,7 +21,7 @@ final class ModelTest {
     }
 
     public static void main(String[] args) {
-        int runs = args.length > 1 ? Integer.parseInt(args[1]) : 400;
+        int runs = args.length > 1 ? Integer.parseInt(args[1]) : 500;
         for (int seed = 0; seed < runs && CHECK.isClean(); seed++) {
             new ModelTest(seed).play(seed);
         }
@@ -31,7 +33,7 @@ final class ModelTest {
             int passive = 8 + random.nextInt(30);
             limits(passive, Math.max(16, passive + 1 + random.nextInt(60)), 1 + random.nextInt(3));
         }
-        for (int k = 0; k < 120 && CHECK.isClean(); k++) {
+        while (calls.size() < MOST_CALLS && CHECK.isClean()) {
             step();
             same("checksum()", bus.checksum(), plain.checksum());
         }

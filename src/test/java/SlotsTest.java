@@ -5,7 +5,6 @@ final class SlotsTest {
     public static void main(String[] args) {
         slotNumbers();
         everythingIsSaved();
-        everyPhaseIsSaved();
         settingsAreSaved();
         codeIsSaved();
         textAndMessagesStay();
@@ -58,44 +57,6 @@ final class SlotsTest {
             due("48 goes on from " + start, x.checksum(), first);
             x.restore(0);
             x.run(7);
-        }
-    }
-
-    /**
-     * At every bit time of an eventful run the state is saved; then another state, from the other slot,
-     * is put in its place, and after restoring, the run must go on as it did.
-     */
-    private static void everyPhaseIsSaved() {
-        ArbitratedBus x = new ArbitratedBus();
-        x.setLimits(100, 101, 7);
-        x.setFilter(1, 2047, 1);
-        x.request(1, 0x2aa, false, 4, 0x12345678);
-        x.run(20);
-        x.save(1);
-        x.restore(1);
-        x.detach(0);
-        x.setLimits(8, 16, 2);
-        x.setFilter(1, 2047, 0x2aa);
-        for (int k = 0; k < 6; k++) {
-            x.request(2, 5 + k, false, 1, k);
-        }
-        x.attach(0);
-        x.disturb(2, 10);
-        x.disturb(8, 60);
-        x.disturb(2, 66);
-        for (int bit = 0; bit < 120; bit++) {
-            x.save(0);
-            long start = x.checksum();
-            x.run(100);
-            long end = x.checksum();
-            x.restore(1);
-            x.run(3);
-            x.restore(0);
-            due("48 same state at " + bit, x.checksum(), start);
-            x.run(100);
-            due("48 same end from " + bit, x.checksum(), end);
-            x.restore(0);
-            x.run(1);
         }
     }
 
@@ -181,6 +142,13 @@ final class SlotsTest {
     }
 
     private static void checksum() {
+        for (int steps = 0; steps < 60; steps++) {
+            ArbitratedBus x = afterSteps(steps);
+            due("49 at " + x.time(), x.checksum(), EdgeKit.checksumOf(x));
+        }
+    }
+
+    private static ArbitratedBus afterSteps(int steps) {
         ArbitratedBus x = new ArbitratedBus();
         x.setLimits(16, 60, 2);
         x.request(0, 291, false, 4, 0xdeadbeef);
@@ -188,53 +156,21 @@ final class SlotsTest {
         x.request(2, 2047, false, 1, 255);
         x.disturb(2, 30);
         x.disturb(3, 90);
-        for (int k = 0; k < 60; k++) {
-            due("49 at " + x.time(), x.checksum(), checksumOf(x));
+        for (int k = 0; k < steps; k++) {
             x.run(k % 9 + 1);
             if (k % 10 == 0) {
                 x.request(k % 4, 100 + k, false, 3, 0x800000 + k);
             }
         }
+        return x;
     }
 
     private static void checksumOfNewObject() {
         ArbitratedBus x = new ArbitratedBus();
-        due("49 new", x.checksum(), checksumOf(x));
+        due("49 new", x.checksum(), EdgeKit.checksumOf(x));
         x.addMessage(1, 1, 1, 1);
         x.append(5);
         x.setFilter(0, 1, 1);
         due("49 of nothing else", x.checksum(), new ArbitratedBus().checksum());
-    }
-
-    private static long checksumOf(ArbitratedBus x) {
-        long h = 31 * 11 + x.time();
-        for (int n = 0; n < 4; n++) {
-            h = 31 * h + x.phase(n);
-            h = 31 * h + x.isTransmitter(n);
-            h = 31 * h + x.transmitErrors(n);
-            h = 31 * h + x.receiveErrors(n);
-            for (int kind = 1; kind <= 5; kind++) {
-                h = 31 * h + x.errors(n, kind);
-            }
-            h = 31 * h + x.lastError(n);
-            h = 31 * h + x.lostArbitrations(n);
-            h = 31 * h + x.overloads(n);
-            h = 31 * h + x.sent(n);
-            h = 31 * h + x.overruns(n);
-            h = 31 * h + x.waiting(n);
-            for (int k = 0; k < x.waiting(n); k++) {
-                h = 31 * h + x.waitingFrame(n, k);
-            }
-            h = 31 * h + x.received(n);
-            for (int k = 0; k < x.received(n); k++) {
-                h = 31 * h + x.receivedFrame(n, k);
-                h = 31 * h + x.receivedLength(n, k);
-                h = 31 * h + x.receivedData(n, k);
-            }
-        }
-        for (int back = 1; back <= 32; back++) {
-            h = 31 * h + x.level(back);
-        }
-        return h;
     }
 }
